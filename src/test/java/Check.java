@@ -1,0 +1,130 @@
+import java.util.NoSuchElementException;
+
+/** What the tests share: answers that are due, exceptions that are due, texts fed to an object. */
+final class Check {
+    interface Call {
+        Object answer();
+    }
+
+    private static int wrong = 0;
+    private static int asked = 0;
+
+    private Check() {
+    }
+
+    /** An exception is told by its class's simple name. */
+    static Object of(Call call) {
+        try {
+            return call.answer();
+        } catch (RuntimeException e) {
+            return e.getClass().getSimpleName();
+        }
+    }
+
+    static void due(String what, Object want, Call call) {
+        asked++;
+        Object got = of(call);
+        if (!want.equals(got)) {
+            wrong++;
+            System.out.println(what + ": " + got + ", due is " + want);
+        }
+    }
+
+    static void due(String what, Object want, Object got) {
+        due(what, want, () -> got);
+    }
+
+    static void missing(String what, Call call) {
+        due(what, NoSuchElementException.class.getSimpleName(), call);
+    }
+
+    static void refused(String what, Call call) {
+        due(what, IllegalArgumentException.class.getSimpleName(), call);
+    }
+
+    /** Feeds a text, with blanks behind it; the object's tape is empty. */
+    static void feed(RewrittenWords x, String text) {
+        for (int from = 0; from < text.length(); from += 20) {
+            int[] numbers = new int[5];
+            for (int k = 0; k < 20; k++) {
+                int sign = from + k < text.length() ? text.charAt(from + k) : ' ';
+                numbers[k / 4] |= sign << (24 - 8 * (k % 4));
+            }
+            x.feed(numbers[0], numbers[1], numbers[2], numbers[3], numbers[4]);
+        }
+    }
+
+    static int system(RewrittenWords x, String text) {
+        feed(x, text);
+        return x.system(text.length());
+    }
+
+    static RewrittenWords with(String text) {
+        RewrittenWords x = new RewrittenWords();
+        int rules = system(x, text);
+        if (rules < 0) {
+            due("system " + text, "a SYSTEM", rules);
+        }
+        return x;
+    }
+
+    static int tell(RewrittenWords x, int place, String word) {
+        feed(x, word);
+        return x.tell(place, word.length());
+    }
+
+    static String word(RewrittenWords x, int place) {
+        StringBuilder row = new StringBuilder();
+        for (int k = 0; x.at(place, k) != RewrittenWords.NONE; k++) {
+            row.append((char) ('a' + x.at(place, k)));
+        }
+        return row.toString();
+    }
+
+    static String rule(RewrittenWords x, int rule) {
+        StringBuilder row = new StringBuilder();
+        for (int k = 0; x.side(rule, false, k) != RewrittenWords.NONE; k++) {
+            row.append((char) ('a' + x.side(rule, false, k)));
+        }
+        row.append('>');
+        for (int k = 0; x.side(rule, true, k) != RewrittenWords.NONE; k++) {
+            row.append((char) ('a' + x.side(rule, true, k)));
+        }
+        return row.toString();
+    }
+
+    static String head(RewrittenWords x, int rule) {
+        StringBuilder row = new StringBuilder();
+        for (int k = 0; x.head(rule, false, k) != RewrittenWords.NONE; k++) {
+            row.append((char) ('a' + x.head(rule, false, k)));
+        }
+        row.append('>');
+        for (int k = 0; x.head(rule, true, k) != RewrittenWords.NONE; k++) {
+            row.append((char) ('a' + x.head(rule, true, k)));
+        }
+        return row.toString();
+    }
+
+    /** What say() SAYS. */
+    static String say(RewrittenWords x) {
+        int length = x.say();
+        String row = said(x);
+        due("say() and said()", length, row.length());
+        return row;
+    }
+
+    static String said(RewrittenWords x) {
+        StringBuilder row = new StringBuilder();
+        for (int i = 0; x.said(i) != RewrittenWords.NONE; i++) {
+            row.append((char) x.said(i));
+        }
+        return row.toString();
+    }
+
+    static void end(String test) {
+        System.out.println(test + ": " + asked + " answers, " + wrong + " wrong");
+        if (wrong > 0) {
+            System.exit(1);
+        }
+    }
+}
