@@ -945,6 +945,9 @@ public final class RewrittenWords {
             behind = 0;
             int found = readLetters();
             for (int lines = 0; lines <= LONGEST_TAPE && found == 0; lines++) {
+                if (!isSign(';')) {
+                    return CANT_STAND;
+                }
                 next();
                 if (kind == END) {
                     return 0;
@@ -965,14 +968,11 @@ public final class RewrittenWords {
                 return found;
             }
             rules.startAnew(number());
-            return readEndOfLine();
-        }
-
-        private int readEndOfLine() {
             next();
-            return isSign(';') ? 0 : CANT_STAND;
+            return 0;
         }
 
+        /** Goes on to the TOKEN behind the LINE. */
         private int readLine() {
             if (isRow("rule")) {
                 return readRule();
@@ -999,20 +999,20 @@ public final class RewrittenWords {
 
         private int readRight(long left) {
             next();
-            if (isSign(';')) {
-                rules.add(left, 0);
-                return 0;
-            }
-            int found = sideFault(LONGEST_SIDE);
-            if (found != 0) {
-                return found;
-            }
-            long right = sideWord();
-            if (right == left) {
-                return ALIKE;
+            long right = 0;
+            if (!isSign(';')) {
+                int found = sideFault(LONGEST_SIDE);
+                if (found != 0) {
+                    return found;
+                }
+                right = sideWord();
+                if (right == left) {
+                    return ALIKE;
+                }
+                next();
             }
             rules.add(left, right);
-            return readEndOfLine();
+            return 0;
         }
 
         private int readWeigh() {
@@ -1028,7 +1028,8 @@ public final class RewrittenWords {
                 return found;
             }
             rules.weight[letter] = number();
-            return readEndOfLine();
+            next();
+            return 0;
         }
 
         private int readOrder() {
@@ -1043,7 +1044,8 @@ public final class RewrittenWords {
             for (int k = from; k < behind; k++) {
                 rules.rank[text[k] - 'a'] = k - from;
             }
-            return readEndOfLine();
+            next();
+            return 0;
         }
 
         private boolean hasEachOnce() {

@@ -84,6 +84,12 @@ public final class DerivationsTest {
         Check.due("what was erased made no letter", "1.0.1.0.0 0.1.1.0.1 ", made(x, 0));
         Check.due("but it had to go first", "1.0 0.1 ", canon(x, 0));
         Check.due("all in one round", 1, x.word(0, 9));
+        Check.due("of another place", 0, x.word(1, 9));
+        Check.system(x, "letters 3;rule a>bb;rule cbb>a;");
+        Check.tell(x, 0, "ca");
+        makeAt(x, 0, 1, 0);
+        makeAt(x, 0, 0, 1);
+        Check.due("not ahead of its letters", "1.0 0.1 ", canon(x, 0));
     }
 
     private static void longCanon() {

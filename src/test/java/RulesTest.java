@@ -29,6 +29,7 @@ public final class RulesTest {
 
     private static void overlaps() {
         RewrittenWords x = Check.with("letters 3;rule abc>a;rule b>c;rule ab>b;");
+        Check.due("asked at once", 2, x.overlap(2, 0));
         // b inside of abc, ab ahead of abc (only with the lower rule first), b at the end of ab
         Check.due("overlaps", "01130 02030 21120 ", overlapsOf(x));
         Check.missing("overlap 3", () -> x.overlap(3, 0));
@@ -136,14 +137,25 @@ public final class RulesTest {
     }
 
     private static void tidying() {
-        RewrittenWords x = Check.with("letters 3;rule aab>b;rule ab>c;rule c>;rule bbb>ab;");
+        RewrittenWords x = Check.with("letters 3;rule aab>b;rule ab>a;rule cc>c;rule bbb>acc;");
+        Check.tell(x, 0, "cc");
+        x.go(0, 0);
         Check.tell(x, 2, "aabb");
         x.make(2, 0);
+        Check.due("ahead of it", 6, x.count(4));
         Check.due("one goes", 1, x.tidy());
-        Check.due("an act", 3, x.count(2));
-        Check.due("tidy", "ab>,c>,bbb>/a1b1c1", Check.say(x));
+        Check.due("an act", 5, x.count(2));
+        // ab with bbb at 1, cc with itself, bbb with itself at 1 and 2
+        Check.due("overlaps of the rules of now", "02140 11131 22140 22250 ", overlapsOf(x));
+        Check.due("tidy", "ab>a,cc>c,bbb>ac/a1b1c1", Check.say(x));
         Check.due("words stay", "bb", Check.word(x, 2));
         Check.due("derivations begin anew", 0, x.word(2, 8));
+        Check.due("derivations begin anew", 0, x.word(0, 8));
+        Check.tell(x, 0, "bbb");
+        Check.due("reach by the rules of now", 2, x.word(0, 4));
+        Check.system(x, "letters 2;rule a>;rule ba>b;");
+        Check.due("that of rule 0 stands in it", 1, x.tidy());
+        Check.due("that of rule 0 stands in it", "a>/a1b1", Check.say(x));
         Check.system(x, "letters 3;rule b>a;rule b>;rule ab>a;rule cb>;rule b>a;");
         Check.due("the first in whose left another's stands, again and again", 4, x.tidy());
         Check.due("of like ones the last stays", "b>a/a1b1c1", Check.say(x));

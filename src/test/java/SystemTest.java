@@ -60,18 +60,19 @@ public final class SystemTest {
         Check.due("the first n bytes alone", 1, x.system(19));
         Check.due("the tape is empty", 0, x.count(3));
         Check.due("letters", 3, x.count(0));
+        Check.tell(x, 0, "abc");
         Check.tell(x, 3, "abc");
         x.make(3, 0);
-        Check.due("acts", 2, x.count(2));
+        Check.due("acts", 3, x.count(2));
         Check.due("a fault", -11, Check.system(x, "letters"));
         Check.due("a fault: the tape is empty", 0, x.count(3));
         Check.due("a fault: nothing else changes", "bbc", Check.word(x, 3));
-        Check.due("a fault: acts stay", 2, x.count(2));
+        Check.due("a fault: acts stay", 3, x.count(2));
         Check.due("a fault: rules stay", "a>b", Check.rule(x, 0));
         Check.due("another system", 2, Check.system(x, "letters 2;rule b>a;rule ab>;"));
         Check.due("another system: acts are gone", 0, x.count(2));
         Check.due("another system: undo", -1, x.undo());
-        Check.due("another system: words are empty", "", Check.word(x, 3));
+        Check.due("another system: words are empty", "", Check.word(x, 0) + Check.word(x, 3));
         Check.due("another system: no steps", 0, x.word(3, 8));
         Check.due("another system: weights and order", "b>a,ab>/a1b1", Check.say(x));
     }
@@ -100,6 +101,7 @@ public final class SystemTest {
         fault("  \n", 1, 3);
         fault("letter 2;", 1, 0);
         fault(" lettersx 2;", 1, 1);
+        fault("betters 2;", 1, 0);
         fault("2;", 1, 0);
         fault("letters", 1, 7);
         fault("letters ;", 1, 8);
@@ -119,6 +121,11 @@ public final class SystemTest {
         fault("letters 2;rule 1>a;", 1, 15);
         fault("letters 2;rule c>a;", 2, 15);
         fault("letters 2;rule rule>a;", 2, 15);
+        fault("letters 2;rule az>a;", 2, 15);
+        fault("letters 2;rule a{>a;", 1, 16);
+        fault("letters 2;rule a`>a;", 1, 16);
+        fault("letters 2;weigh a 1:;", 1, 19);
+        fault("letters 2;weigh a 1/;", 1, 19);
         fault("letters 2;rule ababa>a;", 2, 15);
         fault("letters 2;rule a b>a;", 1, 17);
         fault("letters 2;rule a", 1, 16);

@@ -105,6 +105,7 @@ public final class WordsTest {
         Check.due("no normal ones", 0, x.word(0, 5));
         Check.system(x, "letters 2;rule a>aa;rule a>b;");
         Check.tell(x, 0, "a");
+        Check.due("came at once", 1, x.came(0, 2));
         Check.due("200 at most", 200, x.word(0, 4));
         Check.due("no loop", -1, x.word(0, 7));
         Check.due("end", 1, x.word(0, 6));
