@@ -160,7 +160,10 @@ public final class RulesTest {
         Check.due("the first in whose left another's stands, again and again", 4, x.tidy());
         Check.due("of like ones the last stays", "b>a/a1b1c1", Check.say(x));
         Check.system(x, "letters 5;weigh a 3;rule a>bc;rule bc>e;rule db>c;rule eeee>da;");
+        Check.tell(x, 0, "a");
+        Check.due("reach of a ahead of it", 3, x.word(0, 4));
         Check.due("none goes", 0, x.tidy());
+        Check.due("reach of a by the rights of now", 2, x.word(0, 4));
         Check.due("with the rights changed ahead", "a>e,bc>e,db>c,eeee>de/a3b1c1d1e1", Check.say(x));
         Check.system(x, "letters 2;rule ab>a;rule a>b;rule b>aa;");
         Check.due("it can't be", -1, x.tidy());
