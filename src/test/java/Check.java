@@ -1,4 +1,5 @@
 import java.util.NoSuchElementException;
+import java.util.TreeSet;
 
 /** What the tests share: answers that are due, exceptions that are due, texts fed to an object. */
 final class Check {
@@ -8,8 +9,24 @@ final class Check {
 
     private static int wrong = 0;
     private static int asked = 0;
+    private static String sentence = "";
+    private static final TreeSet<Integer> PROMISES = new TreeSet<>();
 
     private Check() {
+    }
+
+    /** The sentence of the document by which the answers are due from now on; it is told with wrong ones. */
+    static void promise(int number, String words) {
+        sentence = "Promise " + number + ", '" + words + "': ";
+        PROMISES.add(number);
+    }
+
+    /** That promise() named all of these. */
+    static void promisesFrom(int first, int last) {
+        sentence = "";
+        for (int number = first; number <= last; number++) {
+            due("a test for promise " + number, true, PROMISES.contains(number));
+        }
     }
 
     /** An exception is told by its class's simple name. */
@@ -26,7 +43,7 @@ final class Check {
         Object got = of(call);
         if (!want.equals(got)) {
             wrong++;
-            System.out.println(what + ": " + got + ", due is " + want);
+            System.out.println(sentence + what + ": " + got + ", due is " + want);
         }
     }
 
@@ -40,6 +57,29 @@ final class Check {
 
     static void refused(String what, Call call) {
         due(what, IllegalArgumentException.class.getSimpleName(), call);
+    }
+
+    interface Maker {
+        RewrittenWords made();
+    }
+
+    interface CallOf {
+        Object answer(RewrittenWords x);
+    }
+
+    /** A call that changes nothing: what it answers, and that the object looks like one without the call. */
+    static void changesNothing(String what, Object want, Maker maker, CallOf call) {
+        RewrittenWords x = maker.made();
+        due(what, want, () -> call.answer(x));
+        due(what + ": changes", "", Look.difference(Look.at(maker.made()), Look.at(x)));
+    }
+
+    static void changesNothingRefused(String what, Maker maker, CallOf call) {
+        changesNothing(what, IllegalArgumentException.class.getSimpleName(), maker, call);
+    }
+
+    static void changesNothingMissing(String what, Maker maker, CallOf call) {
+        changesNothing(what, NoSuchElementException.class.getSimpleName(), maker, call);
     }
 
     /** Feeds a text, with blanks behind it; the object's tape is empty. */
