@@ -159,7 +159,7 @@ public final class RewrittenWords {
             case 0:
                 return Words.length(here);
             case 1:
-                return desk.rules.weigh(here);
+                return Rules.weighBy(desk.rules.weight, here);
             case 2:
                 return desk.rules.stepsOf(here);
             case 3:
@@ -671,23 +671,23 @@ public final class RewrittenWords {
             return 0;
         }
 
-        int weigh(long word) {
-            return weighBy(weight, word);
-        }
-
-        private static int weighBy(int[] weights, long word) {
+        /** Without calls of its own: it stands at the end of the longest rows of calls. */
+        static int weighBy(int[] weights, long word) {
+            int length = (int) (word >>> Words.LENGTH_FROM);
             int sum = 0;
-            for (int k = 0; k < Words.length(word); k++) {
-                sum += weights[Words.letterOf(word, k)];
+            for (int k = 0; k < length; k++) {
+                int letter = (int) ((word >>> (3 * k)) & 7) - 1;
+                sum += letter >= 0 && letter < MOST_LETTERS ? weights[letter] : 0;
             }
             return sum;
         }
 
         /** 1 if one is ABOVE the other one, -1 if that is ABOVE it, 0 if they are alike. */
         int order(long one, long other) {
-            int byWeight = Integer.compare(weigh(one), weigh(other));
-            if (byWeight != 0) {
-                return byWeight;
+            int weightOfOne = weighBy(weight, one);
+            int weightOfOther = weighBy(weight, other);
+            if (weightOfOne != weightOfOther) {
+                return weightOfOne > weightOfOther ? 1 : -1;
             }
             // neither begins with the other one here: it would weigh less
             int both = Math.min(Words.length(one), Words.length(other));
@@ -1189,16 +1189,13 @@ public final class RewrittenWords {
                     if (way == 0) {
                         return code;
                     }
-                    if (best == NONE || way == 1 || isBelow(word, code, best)) {
+                    if (best == NONE || way == 1
+                            || rules.order(rules.after(word, code), rules.after(word, best)) < 0) {
                         best = code;
                     }
                 }
             }
             return best;
-        }
-
-        private boolean isBelow(long word, int code, int best) {
-            return rules.order(rules.after(word, code), rules.after(word, best)) < 0;
         }
     }
 

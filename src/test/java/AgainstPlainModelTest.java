@@ -2,8 +2,11 @@ import java.util.Random;
 
 /** Long runs of calls, with a fixed seed, asked of RewrittenWords and of the plain model alike. */
 public final class AgainstPlainModelTest {
-    private static final int RUNS = 400;
-    private static final int CALLS = 500;
+    private static final int RUNS = 500;
+    /** An object has no more; the dearest turn, the text of a system, makes 18 of them. */
+    private static final int CALLS = 512;
+    private static final int CALLS_OF_A_TURN = 18;
+    private static int calls;
     private static Random random;
     private static RewrittenWords x;
     private static PlainModel y;
@@ -19,8 +22,9 @@ public final class AgainstPlainModelTest {
             y = new PlainModel();
             told = new StringBuilder("run " + run);
             letters = "ab";
-            for (int call = 0; call < CALLS; call++) {
-                if (!oneCall(call)) {
+            calls = 0;
+            while (calls + CALLS_OF_A_TURN <= CALLS) {
+                if (!oneTurn()) {
                     System.out.println(told);
                     Check.end("AgainstPlainModelTest");
                     return;
@@ -31,6 +35,7 @@ public final class AgainstPlainModelTest {
     }
 
     private static boolean same(String call, Check.Call mine, Check.Call plain) {
+        calls++;
         Object want = Check.of(plain);
         Object got = Check.of(mine);
         told.append("\n").append(call).append(" = ").append(want);
@@ -136,7 +141,7 @@ public final class AgainstPlainModelTest {
         told.append("\n").append(text);
         boolean good = feed(text) && same("system " + text.length(), () -> x.system(text.length()),
                 () -> y.system(text.length())) && same("fault", () -> x.fault(), () -> y.fault());
-        letters = "abcde".substring(0, x.count(0));
+        letters = "abcde".substring(0, y.count(0));
         return good;
     }
 
@@ -149,8 +154,8 @@ public final class AgainstPlainModelTest {
         return feed(row) && same("tell " + p + " " + length, () -> x.tell(p, length), () -> y.tell(p, length));
     }
 
-    private static boolean oneCall(int call) {
-        int kind = call == 0 ? 0 : random.nextInt(100);
+    private static boolean oneTurn() {
+        int kind = calls == 0 ? 0 : random.nextInt(100);
         int p = place();
         int q = place();
         int way = near(2);
@@ -189,13 +194,14 @@ public final class AgainstPlainModelTest {
 
     private static boolean imageOrBack() {
         if (random.nextBoolean()) {
+            calls++;
             x.image();
             y.image();
             told.append("\nimage");
             return true;
         }
         boolean good = same("back", () -> x.back(), () -> y.back());
-        letters = "abcde".substring(0, x.count(0));
+        letters = "abcde".substring(0, y.count(0));
         return good;
     }
 

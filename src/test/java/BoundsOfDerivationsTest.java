@@ -22,6 +22,10 @@ public final class BoundsOfDerivationsTest {
         refusedCallsAreNoActs();
         imageInPlace();
         imageKeepsBounds();
+        imageKeepsAllSteps();
+        undoBringsAllSteps();
+        undoBringsWhatWasTold();
+        canonOfOneBehindAnother();
         imageOfANewObject();
         imageLeavesOut();
         backNothing();
@@ -201,6 +205,19 @@ public final class BoundsOfDerivationsTest {
             Check.due("from the inside, " + k, where[k], x.canon(1, k, 0));
             Check.due("from the inside, " + k, k, x.canon(1, k, 1));
         }
+        // the first letter is the last one there, the others are not made yet
+        x = with("letters 3;rule a>bb;rule cbb>a;", "ca", "aca");
+        makeAt(x, 0, 1, 0);
+        makeAt(x, 0, 0, 1);
+        Check.due("not ahead of its letters", 1, x.canon(0, 0, 0));
+        Check.due("not ahead of its letters", 0, x.canon(0, 0, 1));
+        Check.due("then at 0", 0, x.canon(0, 1, 0));
+        // drawn behind another one, of which nothing stays
+        makeAt(x, 1, 2, 0);
+        makeAt(x, 1, 0, 0);
+        Check.due("of another place", 0, x.canon(1, 0, 0));
+        Check.due("of another place", 3, x.canon(1, 1, 0));
+        Check.due("of the first again", 1, x.canon(0, 0, 0));
         // like letters are not the very ones: the second of both a's was taken first
         x = with("letters 2;rule a>b;rule ab>;", "aab");
         makeAt(x, 0, 1, 1);
@@ -418,6 +435,90 @@ public final class BoundsOfDerivationsTest {
         Check.due("16 letters", "bbbbbbbbbbbbbbbb", Check.word(y, 5));
         Check.due("bb by the rules of then", 2, Check.tell(y, 4, "bb"));
         Check.due("bb by the rules of then", 3, y.make(4, 0));
+    }
+
+    /** Forty STEPS at a PLACE, those of a's and b's by turns where the bits of a number say so. */
+    private static void makeForty(RewrittenWords x, int place, long bits) {
+        Check.tell(x, place, "ab");
+        for (int k = 0; k < 40; k++) {
+            x.make(place, (int) (bits >> k) & 1);
+        }
+    }
+
+    private static String fortySteps(RewrittenWords x, int place) {
+        StringBuilder row = new StringBuilder(Check.word(x, place)).append(' ');
+        for (int k = 0; k < x.word(place, 8); k++) {
+            row.append(x.made(place, k, 0));
+        }
+        return row.toString();
+    }
+
+    private static void imageKeepsAllSteps() {
+        Check.promise(34, "All .. is kept");
+        for (int place = 0; place < 6; place += 5) {
+            RewrittenWords x = Check.with("letters 2;rule a>b;rule b>a;");
+            makeForty(x, place, 0x5a5a5f0f33L);
+            x.image();
+            String steps = fortySteps(x, place);
+            Check.due("40 steps", 43, steps.length());
+            makeForty(x, place, 0xa5a5a0f0ccL);
+            Check.due("other steps", false, steps.equals(fortySteps(x, place)));
+            x.back();
+            Check.due("the steps of then at " + place, steps, fortySteps(x, place));
+        }
+    }
+
+    private static void undoBringsAllSteps() {
+        Check.promise(33, "The latest ACT is UNDONE");
+        for (int place = 0; place < 6; place += 5) {
+            RewrittenWords x = Check.with("letters 2;rule a>b;rule b>a;");
+            makeForty(x, place, 0x5a5a5f0f33L);
+            String steps = fortySteps(x, place);
+            Check.tell(x, place, "ab");
+            for (int k = 0; k < 18; k++) {
+                x.make(place, 1);
+            }
+            for (int k = 0; k < 19; k++) {
+                x.undo();
+            }
+            Check.due("the steps of then at " + place, steps, fortySteps(x, place));
+        }
+    }
+
+    private static void undoBringsWhatWasTold() {
+        Check.promise(33, "A DERIVATION of a PLACE: the WORD that it was told, and the STEPS made there since");
+        RewrittenWords x = with("letters 2;rule aab>b;", "aabb", "aabb");
+        x.make(0, 0);
+        x.make(1, 0);
+        Check.due("one", true, x.areOne(0, 1));
+        x.image();
+        Check.tell(x, 0, "bb");
+        Check.due("told another one", false, x.areOne(0, 1));
+        x.undo();
+        Check.due("undone", true, x.areOne(0, 1));
+        Check.due("undone: its canon", 0, x.canon(0, 0, 0));
+        Check.tell(x, 1, "b");
+        x.back();
+        Check.due("brought back", true, x.areOne(0, 1));
+        x.tidy();
+        Check.due("tidied: both are told bb then", true, x.areOne(0, 1));
+        x.undo();
+        x.take(1, 1, 0);
+        Check.due("told bb, and come to bb", false, x.areOne(0, 1));
+    }
+
+    private static void canonOfOneBehindAnother() {
+        Check.promise(31, "of all not made yet");
+        RewrittenWords x = with("letters 2;rule a>b;", "aa", "aa");
+        makeAt(x, 0, 1, 0);
+        makeAt(x, 0, 0, 0);
+        makeAt(x, 1, 1, 0);
+        Check.due("the first", 0, x.canon(0, 0, 0));
+        Check.due("its second step", 1, x.canon(0, 1, 0));
+        Check.due("the second has one step, at 1", 1, x.canon(1, 0, 0));
+        Check.due("which is the first of its canon", 0, x.made(1, 0, 4));
+        Check.due("the first again", 0, x.canon(0, 0, 0));
+        Check.due("they are not one", false, x.areOne(1, 0));
     }
 
     private static void imageOfANewObject() {

@@ -13,6 +13,7 @@ public final class BoundsOfRulesTest {
         lettersAlikeWhereBothLie();
         overlapWordsOfSixteen();
         overlapsWhoseStepsGrow();
+        manyOverlaps();
         overlapsInOrder();
         overlapMissing();
         overlapsClose();
@@ -125,6 +126,62 @@ public final class BoundsOfRulesTest {
             Check.due("rule 6 makes 17 of rule 7's left", false,
                     () -> x.overlap(overlap, 0) == 6 && x.overlap(overlap, 1) == 7);
         }
+        RewrittenWords y = Check.with("letters 2;weigh b 3;rule bab>aaba;");
+        Check.due("nine come", 9, y.close(10));
+        Check.due("rule 1", "baaaba>aabaab", Check.rule(y, 1));
+        Check.due("rule 7 makes one more", "aabaabaabaaabb>baaaaabbaaaaaba", Check.rule(y, 7));
+        // rule 7 from 2 on: 16 letters, of which it would make 17
+        Check.due("overlaps", laidByHand(y), y.count(4));
+        for (int k = 0; k < y.count(4); k++) {
+            int overlap = k;
+            Check.due("rule 7 makes 17 of both together", false,
+                    () -> y.overlap(overlap, 0) == 1 && y.overlap(overlap, 1) == 7);
+        }
+    }
+
+    private static void manyOverlaps() {
+        Check.promise(20, "OVERLAPS of 12 RULES");
+        RewrittenWords x = Check.with("letters 1;rule aaaa>;rule aaaa>a;rule aaaa>;rule aaaa>;rule aaaa>;rule aaaa>;");
+        // three of each with itself and with each ahead, four with each behind
+        Check.due("of six like lefts", 6 * 3 + 15 * 3 + 15 * 4, x.count(4));
+        Check.due("the last one: i", 5, x.overlap(122, 0));
+        Check.due("the last one: s", 3, x.overlap(122, 2));
+        Check.missing("behind it", () -> x.overlap(123, 0));
+        RewrittenWords y = Check.with("letters 3;weigh b 7;weigh c 7;rule cbb>aa;rule ccc>cbc;rule baa>a;");
+        Check.due("nine come", 9, y.close(10));
+        int many = laidByHand(y);
+        Check.due("of twelve rules", many, y.count(4));
+        Check.due("they are many", true, many > 300);
+        Check.due("the last one: i", 11, y.overlap(many - 1, 0));
+        Check.missing("behind it", () -> y.overlap(many, 0));
+    }
+
+    /** How many OVERLAPS there are, by LEFTS laid upon one another as texts. */
+    private static int laidByHand(RewrittenWords x) {
+        int rules = x.count(1);
+        String[][] sides = new String[rules][];
+        for (int rule = 0; rule < rules; rule++) {
+            sides[rule] = Check.rule(x, rule).split(">", -1);
+        }
+        int found = 0;
+        for (int i = 0; i < rules; i++) {
+            for (int j = 0; j < rules; j++) {
+                for (int s = i < j ? 0 : 1; s < sides[i][0].length(); s++) {
+                    found += isOverlap(sides[i], sides[j], s) ? 1 : 0;
+                }
+            }
+        }
+        return found;
+    }
+
+    private static boolean isOverlap(String[] first, String[] second, int s) {
+        String rest = first[0].substring(s);
+        if (!rest.startsWith(second[0]) && !second[0].startsWith(rest)) {
+            return false;
+        }
+        int both = Math.max(first[0].length(), s + second[0].length());
+        return both <= 16 && both - first[0].length() + first[1].length() <= 16
+                && both - second[0].length() + second[1].length() <= 16;
     }
 
     private static void overlapsInOrder() {
@@ -163,6 +220,16 @@ public final class BoundsOfRulesTest {
         RewrittenWords x = Check.with("letters 3;rule a>b;rule a>c;rule b>c;rule c>b;");
         Check.due("runs that go round end in two words", 0, x.overlap(0, 4));
         Check.due("count of those that don't", 1, x.count(5));
+        // aba comes to ca by way 0, to a by the other ways
+        x = Check.with("letters 4;rule ab>c;rule ba>;rule d>aba;rule d>ca;rule d>a;");
+        int closed = 0;
+        for (int k = 0; k < x.count(4); k++) {
+            int overlap = k;
+            if (x.overlap(overlap, 0) == 2) {
+                closed = 2 * closed + x.overlap(overlap, 4);
+            }
+        }
+        Check.due("by way 0: aba and ca, not aba and a", 2, closed);
     }
 
     private static void fallsByWeightAndOrder() {
@@ -252,10 +319,12 @@ public final class BoundsOfRulesTest {
         Check.due("one till twelve", 1, x.close(10));
         Check.due("twelve rules", 12, x.count(1));
         Check.due("not all close", false, x.count(5) == 0);
-        String said = Check.say(x);
+        int bytes = x.say();
+        String last = Check.rule(x, 11);
         Check.due("no more", 0, x.close(10));
         Check.due("no more", 0, x.close(1));
-        Check.due("no more", said, Check.say(x));
+        Check.due("no more", bytes, x.say());
+        Check.due("no more", last, Check.rule(x, 11));
         Check.due("acts all the same", 4, x.count(2));
         x.undo();
         x.undo();
@@ -352,6 +421,8 @@ public final class BoundsOfRulesTest {
         Check.promise(23, "each RIGHT becomes the end of its RUN by WAY 0 (with the RIGHTS that were changed ahead)");
         Check.due("to an empty one", "b>,a>", tidied("letters 2;order ba;rule b>;rule a>b;", 0));
         Check.due("an empty one stays", "a>", tidied("letters 1;rule a>;", 0));
+        // aba comes to ca by way 0, to a by the other ways
+        Check.due("by way 0", "ab>c,ba>,dddd>ca", tidied("letters 4;rule ab>c;rule ba>;rule dddd>aba;", 0));
         Check.due("rights changed ahead", "c>a,d>a,e>a",
                 tidied("letters 5;rule c>a;rule d>c;rule e>d;", 0));
         Check.due("those behind are not changed yet", "e>a,d>a,c>a",
@@ -426,6 +497,9 @@ public final class BoundsOfRulesTest {
         Check.due("of all letters", "abcd>e", Check.head(Check.with("letters 5;rule edcb>a;"), 0));
         Check.due("backwards", "aab>", Check.head(Check.with("letters 2;rule abb>;"), 0));
         Check.due("by right alone", "aba>ab", Check.head(Check.with("letters 2;rule aba>ba;"), 0));
+        Check.due("by right alone", "aba>ab", Check.head(Check.with("letters 2;rule aba>ab;"), 0));
+        Check.due("ahead, with its right", "aab>b", Check.head(Check.with("letters 2;rule aab>b;"), 0));
+        Check.due("backwards, with its right", "aab>b", Check.head(Check.with("letters 2;rule abb>a;"), 0));
         Check.due("itself", "ab>ba", Check.head(Check.with("letters 2;rule ab>ba;"), 0));
     }
 
@@ -492,6 +566,26 @@ public final class BoundsOfRulesTest {
         x.close(1);
         Check.due("a left of 10 letters", "baaaaaaaab>baaaaaaaaaa", Check.rule(x, 4));
         Check.due("8 letters: as many", ofSix - 1, x.free(8));
+        RewrittenWords y = Check.with("letters 3;weigh b 6;weigh c 7;rule bca>;rule cbcc>aabb;");
+        Check.due("ten come", 10, y.close(10));
+        String[] lefts = new String[12];
+        for (int rule = 0; rule < 12; rule++) {
+            lefts[rule] = Check.rule(y, rule).replaceAll(">.*", "");
+        }
+        for (int n = 0; n <= 8; n++) {
+            int letters = n;
+            Check.due("of twelve lefts, " + n, freeByHand(lefts, "", n), y.free(letters));
+        }
+    }
+
+    private static int freeByHand(String[] lefts, String word, int more) {
+        for (String left : lefts) {
+            if (word.contains(left)) {
+                return 0;
+            }
+        }
+        return more == 0 ? 1 : freeByHand(lefts, word + "a", more - 1) + freeByHand(lefts, word + "b", more - 1)
+                + freeByHand(lefts, word + "c", more - 1);
     }
 
     private static void freeRefused() {

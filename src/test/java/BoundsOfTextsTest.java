@@ -27,6 +27,7 @@ public final class BoundsOfTextsTest {
         weightsOneToNine();
         ordersOfAllLetters();
         laterOnesCount();
+        wordsOfTheGrammar();
         whereATextCanEnd();
         everyByteBehindANumber();
         everyByteBehindARow();
@@ -393,6 +394,44 @@ public final class BoundsOfTextsTest {
                 bad(text + rows[k].substring(1) + (char) ('b' + k) + ";", 2, 16);
             }
             bad(text + ";", 1, 16);
+        }
+        for (int letters = 2; letters <= 4; letters++) {
+            everyRow("letters " + letters + ";order ", "", letters);
+        }
+    }
+
+    /** Of all rows of as many LETTERS as there are those with each once are good. */
+    private static void everyRow(String text, String row, int letters) {
+        if (row.length() == letters) {
+            if (row.chars().distinct().count() == letters) {
+                good(text + row + ";", 0);
+            } else {
+                bad(text + row + ";", 2, 16);
+            }
+            return;
+        }
+        for (char letter = 'a'; letter < 'a' + letters; letter++) {
+            everyRow(text, row + letter, letters);
+        }
+    }
+
+    private static void wordsOfTheGrammar() {
+        Check.promise(3, "1 it can't stand there; 'letters', 'rule', 'weigh', 'order'");
+        String[] texts = {"letters 2;", "letters 2;rule a>b;", "letters 2;weigh a 2;", "letters 2;order ba;"};
+        int[] from = {0, 10, 10, 10};
+        int[] to = {7, 14, 15, 15};
+        for (int k = 0; k < texts.length; k++) {
+            good(texts[k], k == 1 ? 1 : 0);
+            for (int where = from[k]; where < to[k]; where++) {
+                String ahead = texts[k].substring(0, where);
+                String behind = texts[k].substring(where + 1);
+                char sign = texts[k].charAt(where);
+                bad(ahead + (char) (sign + 1) + behind, 1, from[k]);
+                bad(ahead + (char) (sign - 1) + behind, 1, from[k]);
+                bad(ahead + sign + sign + behind, 1, from[k]);
+                bad(ahead + behind, 1, from[k]);
+                bad(ahead + (char) (sign - 32) + behind, 1, from[k]);
+            }
         }
     }
 

@@ -261,6 +261,12 @@ public final class BoundsOfWordsTest {
         Check.due("the last one", "bbabaaaaaaaaaaaa", Check.word(x, 1));
         x = with("letters 1;", "aaa");
         Check.due("itself alone", 1, x.word(0, 4));
+        Check.system(x, "letters 1;rule a>;");
+        Check.tell(x, 0, "aaa");
+        Check.due("by another system", 4, x.word(0, 4));
+        Check.system(x, "letters 1;rule aaa>a;");
+        Check.tell(x, 0, "aaa");
+        Check.due("by another system", 2, x.word(0, 4));
     }
 
     private static void reachHasWordsOf16() {
@@ -473,10 +479,15 @@ public final class BoundsOfWordsTest {
 
     private static void runByWays() {
         Check.promise(13, "WAYS: 0 the first STEP, 1 the last one, 2 that behind which the WORD is the least");
-        RewrittenWords x = with("letters 3;rule a>bb;rule a>b;rule a>c;", "aa");
-        Check.due("0: bbbb", "0 2 4", run(x, 0, 0));
-        Check.due("1: cc", "0 2 2", run(x, 0, 1));
-        Check.due("2: bb", "0 2 2", run(x, 0, 2));
+        RewrittenWords x = with("letters 3;rule a>bb;rule a>b;rule a>c;", "aa", "aa", "aa");
+        Check.due("0", "0 2 4", run(x, 0, 0));
+        Check.due("1", "0 2 2", run(x, 0, 1));
+        Check.due("2", "0 2 2", run(x, 0, 2));
+        x.go(1, 0);
+        Check.due("0", "bbbb", Check.word(x, 1));
+        x.go(2, 1);
+        Check.due("1", "cc", Check.word(x, 2));
+        Check.due("1: the last place first", 1, x.made(2, 0, 0));
         x.go(0, 2);
         // ab and ba: ab is less, though its step is later; then bb by the only letter
         Check.due("2: the less word", 1, x.made(0, 0, 0));

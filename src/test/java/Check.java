@@ -113,36 +113,29 @@ final class Check {
         return x.tell(place, word.length());
     }
 
-    static String word(RewrittenWords x, int place) {
-        StringBuilder row = new StringBuilder();
-        for (int k = 0; x.at(place, k) != RewrittenWords.NONE; k++) {
-            row.append((char) ('a' + x.at(place, k)));
+    interface Row {
+        int letter(int k);
+    }
+
+    /** Each is asked for but once: an object has no more than 512 calls. */
+    private static String row(Row row, int first) {
+        StringBuilder text = new StringBuilder();
+        for (int k = 0, letter = row.letter(0); letter != RewrittenWords.NONE; letter = row.letter(++k)) {
+            text.append((char) (first + letter));
         }
-        return row.toString();
+        return text.toString();
+    }
+
+    static String word(RewrittenWords x, int place) {
+        return row(k -> x.at(place, k), 'a');
     }
 
     static String rule(RewrittenWords x, int rule) {
-        StringBuilder row = new StringBuilder();
-        for (int k = 0; x.side(rule, false, k) != RewrittenWords.NONE; k++) {
-            row.append((char) ('a' + x.side(rule, false, k)));
-        }
-        row.append('>');
-        for (int k = 0; x.side(rule, true, k) != RewrittenWords.NONE; k++) {
-            row.append((char) ('a' + x.side(rule, true, k)));
-        }
-        return row.toString();
+        return row(k -> x.side(rule, false, k), 'a') + ">" + row(k -> x.side(rule, true, k), 'a');
     }
 
     static String head(RewrittenWords x, int rule) {
-        StringBuilder row = new StringBuilder();
-        for (int k = 0; x.head(rule, false, k) != RewrittenWords.NONE; k++) {
-            row.append((char) ('a' + x.head(rule, false, k)));
-        }
-        row.append('>');
-        for (int k = 0; x.head(rule, true, k) != RewrittenWords.NONE; k++) {
-            row.append((char) ('a' + x.head(rule, true, k)));
-        }
-        return row.toString();
+        return row(k -> x.head(rule, false, k), 'a') + ">" + row(k -> x.head(rule, true, k), 'a');
     }
 
     /** What say() SAYS. */
@@ -154,11 +147,7 @@ final class Check {
     }
 
     static String said(RewrittenWords x) {
-        StringBuilder row = new StringBuilder();
-        for (int i = 0; x.said(i) != RewrittenWords.NONE; i++) {
-            row.append((char) x.said(i));
-        }
-        return row.toString();
+        return row(x::said, 0);
     }
 
     static void end(String test) {

@@ -2,7 +2,9 @@ import java.nio.file.Files;
 import java.nio.file.Path;
 import java.util.ArrayList;
 import java.util.List;
+import java.util.Map;
 import java.util.Set;
+import java.util.TreeMap;
 import java.util.TreeSet;
 import java.util.regex.Matcher;
 import java.util.regex.Pattern;
@@ -11,7 +13,9 @@ import java.util.regex.Pattern;
 public final class LanguageTest {
     private static final Pattern METHOD = Pattern.compile(
             "^ +(public |private |static |final )*[a-z\\[\\]A-Z]+ ([a-zA-Z]+)\\((.*)\\)( throws .*)? \\{$");
+    private static final Pattern CALL = Pattern.compile("(?<!Integer[.])\\b([a-z][a-zA-Z]*)\\(");
     private static final int LONGEST_METHOD = 60;
+    private static final int DEEPEST_CALLS = 8;
 
     public static void main(String[] args) throws Exception {
         List<String> lines = new ArrayList<>();
@@ -24,6 +28,7 @@ public final class LanguageTest {
         words(lines);
         names(lines);
         lengths(lines);
+        depths(lines);
         Check.end("LanguageTest");
     }
 
@@ -76,13 +81,49 @@ public final class LanguageTest {
     private static void lengths(List<String> lines) {
         for (int from = 0; from < lines.size(); from++) {
             if (METHOD.matcher(lines.get(from)).matches()) {
-                String indent = lines.get(from).replaceAll("\\S.*", "");
-                int to = from;
-                while (!lines.get(to).equals(indent + "}")) {
-                    to++;
-                }
-                Check.due(lines.get(from) + " of " + (to - from), true, to - from < LONGEST_METHOD);
+                int length = endOf(lines, from) - from;
+                Check.due(lines.get(from) + " of " + length, true, length < LONGEST_METHOD);
             }
         }
+    }
+
+    private static int endOf(List<String> lines, int from) {
+        String indent = lines.get(from).replaceAll("\\S.*", "");
+        int to = from;
+        while (!lines.get(to).equals(indent + "}")) {
+            to++;
+        }
+        return to;
+    }
+
+    /** How deep calls go, methods of one name taken as one; only copyFrom of two classes calls its like. */
+    private static void depths(List<String> lines) {
+        Map<String, Set<String>> calls = new TreeMap<>();
+        for (int from = 0; from < lines.size(); from++) {
+            Matcher method = METHOD.matcher(lines.get(from));
+            if (method.matches()) {
+                Set<String> called = calls.computeIfAbsent(method.group(2), name -> new TreeSet<>());
+                Matcher call = CALL.matcher(String.join("\n", lines.subList(from + 1, endOf(lines, from))));
+                while (call.find()) {
+                    called.add(call.group(1));
+                }
+            }
+        }
+        Check.due("a call of its like", true, calls.get("copyFrom").remove("copyFrom"));
+        for (String name : calls.keySet()) {
+            int depth = depth(calls, name, 1);
+            Check.due("calls from " + name + " go " + depth + " deep", true, depth <= DEEPEST_CALLS);
+        }
+    }
+
+    private static int depth(Map<String, Set<String>> calls, String name, int above) {
+        int deepest = 1;
+        // a call of itself, by whatever way, would go on for ever here
+        for (String called : above > 2 * DEEPEST_CALLS ? new TreeSet<String>() : calls.get(name)) {
+            if (calls.containsKey(called)) {
+                deepest = Math.max(deepest, 1 + depth(calls, called, above + 1));
+            }
+        }
+        return deepest;
     }
 }

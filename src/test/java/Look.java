@@ -62,7 +62,8 @@ final class Look {
             for (int k = Math.max(0, steps - 3); k < steps; k++) {
                 row.append(' ').append(k).append(':').append(x.made(place, k, 0)).append(x.made(place, k, 1));
             }
-            row.append('\n');
+            // by what it was told
+            row.append(x.areOne(place, (place + 1) % 6) ? " as the next one\n" : "\n");
         }
     }
 
