@@ -17,6 +17,7 @@ public final class BoundsOfRulesTest {
         overlapsInOrder();
         overlapMissing();
         overlapsClose();
+        overlapsCloseBySixty();
         fallsByWeightAndOrder();
         fallsMissing();
         closeOneToTen();
@@ -26,11 +27,13 @@ public final class BoundsOfRulesTest {
         closeNothing();
         closeAnEmptyRight();
         closeTheLeastOne();
+        closeBySixty();
         closeCantBe();
         tidyNothing();
         tidyLikeLefts();
         tidyInside();
         tidyRights();
+        tidyBySixty();
         tidyDerivations();
         tidyTwelve();
         tidyCantBe();
@@ -230,6 +233,82 @@ public final class BoundsOfRulesTest {
             }
         }
         Check.due("by way 0: aba and ca, not aba and a", 2, closed);
+    }
+
+    /** What is there behind so many STEPS at most, each the first one, as texts. */
+    private static String stepped(String[] rules, String word, int most) {
+        String now = word;
+        for (int k = 0; k < most; k++) {
+            String next = firstStep(rules, now);
+            if (next.equals(now)) {
+                return now;
+            }
+            now = next;
+        }
+        return now;
+    }
+
+    private static String firstStep(String[] rules, String word) {
+        for (int where = 0; where < word.length(); where++) {
+            for (String rule : rules) {
+                String[] sides = rule.split(">", -1);
+                String next = word.substring(0, where) + sides[1]
+                        + (word.startsWith(sides[0], where) ? word.substring(where + sides[0].length()) : "");
+                if (word.startsWith(sides[0], where) && next.length() <= 16) {
+                    return next;
+                }
+            }
+        }
+        return word;
+    }
+
+    private static void overlapsCloseBySixty() {
+        Check.promise(20, "RUNS by WAY 0 .. come to one WORD; 60 STEPS were made (2)");
+        RewrittenWords x = Check.with("letters 5;rule ab>ba;rule a>bb;rule b>a;rule e>a;rule e>bb;");
+        Check.tell(x, 0, "a");
+        Check.tell(x, 1, "bb");
+        Check.due("normal by just 60 steps", "0 60", x.run(0, 0, 0) + " " + x.run(0, 0, 1));
+        Check.due("normal by 59 steps", "0 59", x.run(1, 0, 0) + " " + x.run(1, 0, 1));
+        Check.due("both come to one word", 1, x.overlap(x.count(4) - 1, 4));
+        RewrittenWords y = Check.with("letters 5;rule aa>b;rule d>b;rule bc>c;rule b>da;rule e>aada;rule e>bda;");
+        Check.tell(y, 0, "aada");
+        Check.tell(y, 1, "bda");
+        Check.due("not yet normal", "2 60", y.run(0, 0, 0) + " " + y.run(0, 0, 1));
+        Check.due("normal by 60 steps, from the next word", "0 60", y.run(1, 0, 0) + " " + y.run(1, 0, 1));
+        Check.due("the last overlap: i", 4, y.overlap(y.count(4) - 1, 0));
+        Check.due("one of both is not there yet", 0, y.overlap(y.count(4) - 1, 4));
+    }
+
+    private static void tidyBySixty() {
+        Check.promise(23, "each RIGHT becomes the end of its RUN by WAY 0; 60 STEPS were made (2)");
+        // ccdd comes to eight b's and eight a's, which change sides: 4 and 64 steps
+        String[] rules = {"eeee>ccdd", "c>bbbb", "d>aaaa", "ba>ab"};
+        StringBuilder text = new StringBuilder("letters 5;weigh e 9;weigh d 9;weigh c 9;weigh b 2;weigh a 2;");
+        for (String rule : rules) {
+            text.append("rule ").append(rule).append(';');
+        }
+        RewrittenWords x = Check.with(text.toString());
+        Check.tell(x, 0, "ccdd");
+        Check.due("more than 60 steps", "2 60", x.run(0, 0, 0) + " " + x.run(0, 0, 1));
+        String there = stepped(rules, "ccdd", 60);
+        Check.due("it would go on", false, there.equals(stepped(rules, "ccdd", 61)));
+        Check.due("none goes", 0, x.tidy());
+        Check.due("behind the 60th step", "eeee>" + there, Check.rule(x, 0));
+        Check.due("tidied again", 0, x.tidy());
+        Check.due("behind 8 steps more", "eeee>aaaaaaaabbbbbbbb", Check.rule(x, 0));
+    }
+
+    private static void closeBySixty() {
+        Check.promise(22, "of both ends of these RUNS; 60 STEPS were made (2)");
+        String[] rules = {"eeee>ccdd", "eeee>ddcc", "c>bbbb", "d>aaaa", "ba>ab"};
+        StringBuilder text = new StringBuilder("letters 5;weigh e 9;weigh d 9;weigh c 9;weigh b 2;weigh a 2;");
+        for (String rule : rules) {
+            text.append("rule ").append(rule).append(';');
+        }
+        RewrittenWords x = Check.with(text.toString());
+        Check.due("one comes", 1, x.close(1));
+        // from ddcc it comes there by 4 steps, from ccdd it would by 68
+        Check.due("it stops behind the 60th step", stepped(rules, "ccdd", 60) + ">aaaaaaaabbbbbbbb", Check.rule(x, 5));
     }
 
     private static void fallsByWeightAndOrder() {
